@@ -600,7 +600,7 @@ public final class DuskDebts {
     private int levelOf(int colour, int n) {
         int fits = 0;
         int high = MOST_CLAIMED;
-        while (fits < high) {
+        for (int halvings = 0; halvings < 20 && fits < high; halvings++) {
             int bound = fits + (high - fits + 1) / 2;
             if (givenBy(bound, colour) <= n) {
                 fits = bound;
