@@ -56,7 +56,8 @@ public final class NaiveTest {
             } else if (dice < 11) {
                 text("book", spoiled(bookText(), 15));
             } else if (dice < 12) {
-                compare(new String[] {"coast", "law", "work", "book"}[random.nextInt(4)], random.nextInt(700) - 20);
+                int n = random.nextInt(9) == 0 ? argument(600) : random.nextInt(700) - 20;
+                compare(new String[] {"coast", "law", "work", "book"}[random.nextInt(4)], n);
             } else {
                 ask();
             }
@@ -68,14 +69,29 @@ public final class NaiveTest {
         int[] ranges = RANGES[which];
         int[] a = new int[ranges.length];
         for (int i = 0; i < a.length; i++) {
-            a[i] = ranges[i] < 0 ? random.nextInt() : random.nextInt(40) == 0 ? ranges[i] + 1 : random.nextInt(40) == 0 ? -1
-                : random.nextInt(8) == 0 ? ranges[i] : random.nextInt(ranges[i] + 1);
+            a[i] = argument(ranges[i]);
         }
         if (ASKED[which].matches("creditor|sees|gets|net|debt|grows|delay|weds|choices") && random.nextInt(20) > 0) {
             int kind = ASKED[which].matches("creditor|sees|gets|net") ? 0 : ASKED[which].matches("weds|choices") ? 3 : 1;
             a[0] = random.nextInt(Math.max(1, x.told(kind)));
         }
         compare(ASKED[which], a);
+    }
+
+    /** Mostly fitting, sometimes just outside, sometimes as far outside as can be; a range of -1 is any number. */
+    private static int argument(int most) {
+        switch (random.nextInt(80)) {
+            case 0:
+                return most + 1;
+            case 1:
+                return -1;
+            case 2:
+                return Integer.MIN_VALUE + random.nextInt(3);
+            case 3:
+                return Integer.MAX_VALUE - random.nextInt(3);
+            default:
+                return most < 0 ? random.nextInt() : random.nextInt(8) == 0 ? most : random.nextInt(most + 1);
+        }
     }
 
     private static void text(String name, String text) throws Exception {
