@@ -25,7 +25,6 @@ public final class DuskDebts {
     private static final int LAST_DUSK = 200;
     private static final int AHEAD = 60;
     private static final int MOST_OWED = 9999;
-    private static final int MOST_CLAIMED = DEBTS * MOST_OWED;
     private static final int SIXTEENTHS = 16;
     private static final int ABOVE_ALL = 2147483647;
 
@@ -597,9 +596,10 @@ public final class DuskDebts {
         return bits;
     }
 
+    /** No bound above n is needed: one that gave no more than n would bind no claim. */
     private int levelOf(int colour, int n) {
         int fits = 0;
-        int high = MOST_CLAIMED;
+        int high = n;
         for (int halvings = 0; halvings < 20 && fits < high; halvings++) {
             int bound = fits + (high - fits + 1) / 2;
             if (givenBy(bound, colour) <= n) {

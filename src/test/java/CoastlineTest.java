@@ -27,6 +27,9 @@ public final class CoastlineTest {
         weds("dusk 5 1 0 0;dusk 1 5 0 0;wedding gold 1 5;wedding gold 5 0;wedding rose 5 1;", 2, 0, 1);
         weds("dusk 1 0 0 0;wedding gold 1 5;wedding gold 1 4;wedding gold 1 3;wedding gold 1 2;wedding gold 1 1;wedding gold 1 0;",
             5, 4, 3, 2, 1, 0);
+        weds("dusk 0 0 0 0;".repeat(10) + "dusk 1 0 0 0;wedding gold 1 10;wedding gold 1 21;", 10, 21);
+        weds("dusk 1 0 0 0;" + "dusk 0 0 0 0;".repeat(11)
+            + "wedding gold 1 60;wedding gold 1 48;wedding gold 1 36;wedding gold 1 24;wedding gold 1 12;wedding gold 1 0;", 60, 48, 36, 24, 12, 0);
         DuskDebts x = Coasts.on("dusk 5 0 0 0;dusk 0 0 0 40;wedding gold 5 60;wedding gold 6 60;wedding grey 40 0;wedding grey 40 1;");
         t.same("choices", x.choices(0), 31);
         t.same("choices", x.choices(1), 0);

@@ -88,6 +88,7 @@ public final class TextsTest {
         coastFault("dusk 0 0 0 41;", 2, 11);
         coastFault("dusk 0 0 0;", 1, 10);
         coastFault("ridge 0 21;", 2, 8);
+        coastFault("ridge 20 1;", 2, 6);
         coastFault("lamp gold 100;", 2, 10);
         coastFault("wedding rose 0 0;", 2, 13);
         coastFault("wedding rose 41 0;", 2, 13);
@@ -119,6 +120,8 @@ public final class TextsTest {
         t.same("the last fog", x.decade(3, 9, 2), 9);
         t.text("no clauses", Coasts.coast(x, ""), 0, x, -1);
         t.same("no lamp", x.light(2, 1), 0);
+        t.same("no fog", x.decade(3, 9, 2), 0);
+        t.same("no ridge", x.eyes(19), 1);
     }
 
     private static void tooMany() {
@@ -136,6 +139,9 @@ public final class TextsTest {
         t.text("sixty clauses", Coasts.coast(x, "fog1;".repeat(60)), 0, x, -1);
         t.text("sixty and blanks", Coasts.coast(x, "fog1;".repeat(60) + "  "), 0, x, -1);
         t.text("a 61st", Coasts.coast(x, "fog1;".repeat(60) + " fog1;"), -7, x, 301);
+        for (String clause : new String[] {"ridge 0 0;", "lamp gold 0;", "dusk 0 0 0 0;", "creditor 0 0;", "wedding gold 1 1;", "owes 0 1 1;", "debt 0"}) {
+            t.text("a 61st: " + clause, Coasts.coast(x, "fog1;".repeat(60) + clause), -7, x, 300);
+        }
         t.text("a 61st with a wrong number", Coasts.coast(x, "fog1;".repeat(60) + "fog99;"), -7, x, 300);
         t.text("a 61st that is no clause", Coasts.coast(x, "fog1;".repeat(60) + "fig1;"), -9, x, 300);
     }

@@ -39,6 +39,9 @@ public final class WorkTest {
         t.same("parts to him", x.creditor(2, 3), 26);
         t.same("none to the first", x.creditor(0, 2), 0);
         t.same("greatest", x.greatest(), 2);
+        DuskDebts lit = Coasts.on("lamp green 99;");
+        t.same("99 at once", Coasts.work(lit, "lamp green 99;"), 1);
+        t.same("99 there", lit.light(2, 0), 99);
         t.same("a text of nothing", Coasts.work(x, "  "), 0);
         t.same("is a work without refused ones", x.told(8), 0);
     }
@@ -143,6 +146,12 @@ public final class WorkTest {
         t.same("the tape is empty", x.count(1), 0);
         t.same("the latest work's refused", x.told(8), 2);
         t.refuses("a wrong length is refused ahead", Coasts.WRONG, () -> x.work(1));
+        t.same("an image of 16 works", x.image(), 1);
+        x.undo();
+        x.undo();
+        t.same("brought back", x.restore(), 0);
+        t.same("16 works", x.count(2), 16);
+        t.same("as it was", x.told(5), 24);
         t.same("undo", x.undo(), 15);
         t.same("room again", Coasts.work(x, "dusk;"), 1);
         for (int i = 15; i >= 0; i--) {
