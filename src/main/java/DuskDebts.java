@@ -324,7 +324,8 @@ public final class DuskDebts {
             return Math.min(claim, levelOf(colour, n));
         }
         int claimed = ledger.owedOf(coastNow, colour);
-        return claimed == 0 ? 0 : n * claim / claimed;
+        // Nobody claims what is above all claims, so that nobody gets it.
+        return claimed <= n ? claim : n * claim / claimed;
     }
 
     public int owes(int creditor, int other) throws NoSuchElementException {

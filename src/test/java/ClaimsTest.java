@@ -26,7 +26,9 @@ public final class ClaimsTest {
         t.same("the bound is cut", x.gets(1, 0, 41, 1), 15);
         t.same("all that is claimed", x.gets(2, 0, 999, 1), 60);
         t.same("all that is claimed", x.gets(2, 0, 100, 0), 60);
-        t.same("by parts, also of more than is claimed", x.gets(2, 0, 200, 0), 120);
+        t.same("by parts, no more than he claims", x.gets(2, 0, 101, 0), 60);
+        t.same("by parts, no more than he claims", x.gets(2, 0, 999, 0), 60);
+        t.same("by parts, one fewer than is claimed", x.gets(2, 0, 99, 0), 59);
         t.same("of rose", x.gets(3, 1, 5, 1), 5);
         Coasts.work(x, "hand 0 3;pay 3 30;");
         t.same("what is owed to him now", x.gets(3, 0, 70, 0), 10);

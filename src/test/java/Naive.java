@@ -927,7 +927,7 @@ final class Naive {
         }
         int claim = owedTo(a[0], a[1])[1];
         if (a[3] == 0) {
-            return total == 0 ? 0 : a[2] * claim / total;
+            return total == 0 ? 0 : Math.min(a[2], total) * claim / total;
         }
         int bound = 0;
         for (int b = 0; b <= 9999; b++) {
