@@ -324,8 +324,9 @@ public final class DuskDebts {
             return Math.min(claim, levelOf(colour, n));
         }
         int claimed = ledger.owedOf(coastNow, colour);
-        // Nobody claims what is above all claims, so that nobody gets it.
-        return claimed <= n ? claim : n * claim / claimed;
+        // Nobody claims what is above all claims, so nobody gets it.
+        int shared = Math.min(n, claimed);
+        return claimed == 0 ? 0 : shared * claim / claimed;
     }
 
     public int owes(int creditor, int other) throws NoSuchElementException {
