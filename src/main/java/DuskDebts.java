@@ -1455,7 +1455,7 @@ public final class DuskDebts {
                 case HAND:
                     return ledger.handOn(first[i], second[i]);
                 default:
-                    return ledger.today() < LAST_DUSK && ledger.pass(coast, law);
+                    return ledger.pass(coast, law);
             }
         }
     }
@@ -1548,7 +1548,11 @@ public final class DuskDebts {
             return true;
         }
 
+        /** Foresight asks here too, so that what is foreseen ends on the last dusk as work does. */
         boolean pass(Coast coast, Law law) {
+            if (today() >= LAST_DUSK) {
+                return false;
+            }
             for (int d = 0; d < coast.debts; d++) {
                 if (owed(d) > 0) {
                     int more = growthOf(d, owed(d), paidToday(d), today(), coast, law);

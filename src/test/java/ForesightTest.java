@@ -5,6 +5,7 @@ public final class ForesightTest {
     public static void main(String[] args) {
         best();
         soonAndLeft();
+        theLastDusk();
         delays();
         nextDebt();
         decades();
@@ -59,12 +60,55 @@ public final class ForesightTest {
         t.same("paid as by pay: it grows by what is paid", byPaid.left(1), 9);
         Coasts.work(byPaid, "pay 0 1;");
         t.same("and by what was paid", byPaid.left(1), 9);
-        DuskDebts late = Coasts.on("creditor 0 0;debt 0 gold 99 0 0;dusk 9 0 0 0;");
-        Coasts.work(late, "again 20[again 20[dusk;];];");
-        Coasts.work(late, "again 20[dusk;];");
-        t.same("soon goes on behind dusk 200", late.soon(), 210);
-        t.same("so does left", late.left(3), 72);
-        t.same("so does a decade", late.decade(1, 4, 0), 63);
+    }
+
+    private static DuskDebts onDusk(int dusk, String coast) {
+        DuskDebts x = Coasts.on(coast);
+        Coasts.work(x, "again 20[again 20[dusk;];];");
+        for (int i = x.told(4); i < dusk; i++) {
+            Coasts.work(x, "dusk;");
+        }
+        t.same("the test's dusk", x.told(4), dusk);
+        return x;
+    }
+
+    private static void theLastDusk() {
+        String slow = "creditor 0 0;debt 0 gold 99 0 60;debt 0 rose 7 16 60;dusk 9 0 4 0;fog 0;";
+        DuskDebts last = onDusk(200, slow.replace(" 16 ", " 0 "));
+        t.same("no dusk comes behind dusk 200", last.soon(), -1);
+        t.same("behind none all is owed", last.left(0), 106);
+        t.same("behind one dusk 200 has paid", last.left(1), 97);
+        t.same("behind 60 no more is paid", last.left(60), 97);
+        t.same("nor in a decade", last.decade(1, 4, 0), 97);
+        t.same("paid once", last.decade(1, 60, 3), 9);
+        t.same("nor in a span", last.span(1, 20, 60, 0) * 1000 + last.span(1, 20, 60, 1), 97097);
+        t.same("nothing stays changed", last.told(4) * 1000 + last.told(5), 200106);
+
+        DuskDebts near = onDusk(198, slow.replace(" 16 ", " 0 "));
+        t.same("dusk 198 pays", near.left(1), 97);
+        t.same("and dusk 199", near.left(2), 88);
+        t.same("and dusk 200", near.left(3), 79);
+        t.same("and none behind it", near.left(4), 79);
+        t.same("so in a decade", near.decade(7, 9, 0), 79);
+        t.same("paid in three", near.decade(7, 9, 3), 27);
+        t.same("never all", near.soon(), -1);
+
+        DuskDebts just = onDusk(198, "creditor 0 0;debt 0 gold 27 0 60;dusk 9 0 0 0;");
+        t.same("all is paid in dusk 200", just.soon(), 200);
+
+        DuskDebts grown = onDusk(199, "creditor 0 0;debt 0 gold 10 0 0;dusk 0 0 0 0;");
+        Coasts.law(grown, "3");
+        t.same("dusk 199 ends, and it grows", grown.left(1), 13);
+        t.same("dusk 200 does not end", grown.left(2), 13);
+        t.same("nor in a decade", grown.decade(0, 5, 0), 13);
+        t.same("delay goes beyond dusk 200", grown.delay(0, 19), 3);
+        Coasts.work(grown, "dusk;");
+        t.same("also from dusk 200 on", grown.delay(0, 19), 2);
+        t.same("what would grow, if it ended", grown.grows(0), 3);
+
+        DuskDebts foggy = onDusk(200, "creditor 0 0;debt 0 gold 99 0 0;dusk 9 0 0 0;fog 16;");
+        t.same("fog is drawn as often as asked", foggy.decade(3, 5, 2), 5);
+        t.same("and the light is lost", foggy.decade(3, 5, 3), 0);
     }
 
     private static void delays() {

@@ -487,11 +487,7 @@ final class Naive {
                 s.to[step.a] = step.b;
                 return true;
             default:
-                if (s.dusk == 200) {
-                    return false;
-                }
-                dusk(s);
-                return true;
+                return dusk(s);
         }
     }
 
@@ -523,7 +519,16 @@ final class Naive {
         return grow(s.owed[d], debt[3], s.dusk > debt[4] ? s.dusk - debt[4] : 0, s.dusk, s.paidNow[d], debt[1], told.creditors.get(s.to[d])[0]);
     }
 
-    private void dusk(State s) {
+    private boolean dusk(State s) {
+        if (s.dusk == 200) {
+            return false;
+        }
+        duskWithoutEnd(s);
+        return true;
+    }
+
+    /** The document lets DELAY alone go beyond DUSK 200. */
+    private void duskWithoutEnd(State s) {
         for (int d = 0; d < told.debts.size(); d++) {
             if (s.owed[d] > 0) {
                 s.owed[d] = Math.min(9999, s.owed[d] + grow(s, d));
@@ -669,7 +674,7 @@ final class Naive {
                 int waited = -1;
                 while (waited < 60 && s.owed[a[0]] <= a[1]) {
                     waited++;
-                    dusk(s);
+                    duskWithoutEnd(s);
                 }
                 return waited;
             case "next":

@@ -203,7 +203,11 @@ public final class NaiveTest {
         return (random.nextBoolean() ? "least[" : "most [") + sum(open + 1) + "," + sum(open + 1) + " ]";
     }
 
+    /** Some works go far, so that some runs come to the last dusk. */
     private static String workText() {
+        if (random.nextInt(8) == 0) {
+            return "again " + pick(8, 20) + "[again 20[dusk;];];";
+        }
         String s = steps(0);
         return s.length() > 150 ? "dusk;" : s;
     }
