@@ -17,16 +17,26 @@ final class Coasts {
     private final String test;
     private int asked = 0;
     private int wrong = 0;
+    private String sentence = "";
 
     Coasts(String test) {
         this.test = test;
     }
 
+    /** What the document says and the answers behind this call show, until it says the next thing. */
+    void says(String words) {
+        sentence = " (" + words + ")";
+    }
+
     void same(String what, long got, long want) {
+        same(what, Long.toString(got), Long.toString(want));
+    }
+
+    void same(String what, String got, String want) {
         asked++;
-        if (got != want) {
+        if (!got.equals(want)) {
             wrong++;
-            System.out.println(test + ": " + what + " answered " + got + ", due is " + want);
+            System.out.println(test + ": " + what + " answered " + got + ", due is " + want + sentence);
         }
     }
 
@@ -92,6 +102,32 @@ final class Coasts {
     static int book(DuskDebts x, String text) {
         feed(x, text);
         return x.book(text.length());
+    }
+
+    /** All that can be asked of the state, but for what undo, images, the tape and refusals count. */
+    static String all(DuskDebts x) {
+        StringBuilder s = new StringBuilder();
+        for (int what = 0; what <= 7; what++) {
+            s.append(x.told(what)).append(' ');
+        }
+        for (int c = 0; c < x.told(0); c++) {
+            s.append("C").append(x.creditor(c, 2)).append(' ').append(x.creditor(c, 3)).append(' ').append(x.net(c)).append(' ');
+        }
+        for (int d = 0; d < x.told(1); d++) {
+            s.append("D");
+            for (int what = 0; what <= 6; what++) {
+                s.append(x.debt(d, what)).append(' ');
+            }
+            s.append(x.grows(d)).append(' ');
+        }
+        for (int k = 0; k < 4; k++) {
+            s.append("K");
+            for (int what = 0; what <= 4; what++) {
+                s.append(x.light(k, what)).append(' ');
+            }
+        }
+        s.append("M").append(x.moved()).append(' ').append(x.matched()).append(' ').append(x.would(50, 7, 3, 2));
+        return s.toString();
     }
 
     static DuskDebts on(String coast) {
