@@ -14,6 +14,7 @@ public final class ForesightEdgesTest {
         delay();
         delayAtTheMost();
         next();
+        tenDebts();
         nothingStaysChanged();
         t.end();
     }
@@ -70,6 +71,8 @@ public final class ForesightEdgesTest {
         t.says("of all sets of DEBTS that could be ended now (each COLOUR by what is left)");
         best(new DuskDebts(), 0, 0);
         best(Coasts.on("creditor 0 0;debt 0 gold 16 1 0;dusk 15 0 0 0;"), 0, 1);
+        best(Coasts.on("creditor 0 0;debt 0 gold 1 16 0;dusk 1 0 0 0;"), 1, 0);
+        best(Coasts.on("creditor 0 0;debt 0 gold 1 16 0;dusk 0 0 0 0;"), 0, 1);
         best(Coasts.on("creditor 0 0;debt 0 gold 16 1 0;dusk 16 0 0 0;"), 1, 0);
         best(Coasts.on("creditor 0 0;debt 0 gold 16 1 0;dusk 0 40 40 40;"), 0, 1);
         best(Coasts.on("creditor 0 0;debt 0 gold 16 1 0;debt 0 gold 16 1 0;dusk 31 0 0 0;"), 1, 1);
@@ -320,6 +323,23 @@ public final class ForesightEdgesTest {
         x.undo();
         x.undo();
         t.same("again", x.next(), 1);
+    }
+
+    private static void tenDebts() {
+        t.says("each COLOUR's light goes to its DEBTS by T: of ten DEBTS");
+        DuskDebts x = Coasts.on("creditor 0 0;creditor 1 1;" + "debt 1 gold 4 0 9;".repeat(9) + "debt 0 gold 4 0 8;dusk 13 0 0 0;");
+        t.same("as told", x.told(5), 40);
+        t.same("the last is due first", x.next(), 9);
+        t.same("three of them are ended, one is begun", x.left(1), 27);
+        t.same("in four", x.soon(), 3);
+        t.same("in a decade", x.decade(0, 3, 0) * 100 + x.decade(0, 3, 3), 139);
+        Coasts.work(x, "again 3[end 9;end 0;end 1;end 2;end 3;end 4;end 5;end 6;end 7;end 8;dusk;];");
+        t.same("one is left", x.next() * 10 + x.told(5), 84);
+        t.same("paid on the last", x.debt(9, 6) * 10 + x.debt(8, 6), 40);
+        Coasts.work(x, "end 8;");
+        t.same("all are ended", x.next(), -1);
+        t.same("nothing is owed", x.told(5) + x.soon() + x.left(60), 3);
+        t.same("paid of gold in all", x.light(0, 4) * 10 + x.light(1, 4), 400);
     }
 
     private static void nothingStaysChanged() {

@@ -213,6 +213,12 @@ public final class TextEdgesTest {
         t.same("none to restore", x.restore(), -1);
         t.same("nothing to undo", x.count(2), 0);
         t.same("nothing to undo", x.undo(), -1);
+        for (int i = 0; i < 2; i++) {
+            t.same("other coasts", Coasts.coast(x, "creditor 0 0;creditor 0 0;creditor 0 0;debt 2 gold 1 0 0;dusk 0 0 0 0;"), 1);
+            t.same("nothing is owed among them", x.struck(0) + x.struck(1) + x.owes(0, 1) + x.owes(1, 2) + x.net(0), 0);
+            t.same("no lamps, ridges, weddings, fog", x.light(1, 1) + x.eyes(5) + x.matched() + x.decade(0, 60, 2), 1);
+            t.same("light and debts of its own", x.light(0, 0) * 10 + x.told(5), 1);
+        }
         t.same("a coast without clauses", Coasts.coast(x, ""), 0);
         for (int what = 0; what <= 8; what++) {
             t.same("told of a coast without clauses", x.told(what), 0);
@@ -501,6 +507,7 @@ public final class TextEdgesTest {
         Coasts.law(x, "dusk");
         t.same("the dusk which ends", x.grows(0), 3);
 
+        paidInThisDusk();
         t.says("\"paid\" (on it in this DUSK)");
         Coasts.law(x, "paid");
         t.same("none", x.grows(0), 0);
@@ -524,6 +531,22 @@ public final class TextEdgesTest {
         faults(Text.LAW, "cells", 1, 0);
         faults(Text.LAW, "gold", 1, 0);
         faults(Text.LAW, "again", 1, 0);
+    }
+
+    private static void paidInThisDusk() {
+        t.says("\"paid\" (on it in this DUSK): on each of ten DEBTS");
+        DuskDebts x = Coasts.on("creditor 0 0;" + "debt 0 gold 9 0 9;".repeat(10) + "dusk 40 0 0 0;");
+        Coasts.law(x, "paid");
+        Coasts.work(x, "pay 0 1;pay 1 2;pay 2 3;pay 3 4;pay 4 1;pay 5 1;pay 6 2;pay 7 3;pay 8 4;pay 9 5;");
+        int[] paid = {1, 2, 3, 4, 1, 1, 2, 3, 4, 5};
+        for (int d = 0; d < 10; d++) {
+            t.same("in this dusk, on " + d, x.grows(d), paid[d]);
+        }
+        Coasts.work(x, "dusk;");
+        for (int d = 0; d < 10; d++) {
+            t.same("not in the next, on " + d, x.grows(d), 0);
+            t.same("paid in all, owed, of " + d, x.debt(d, 6) * 10 + x.debt(d, 2), paid[d] * 10 + 9);
+        }
     }
 
     // ---- works and books ----
@@ -593,6 +616,9 @@ public final class TextEdgesTest {
         faults(Text.COAST, "fog +1;", 1, 4);
         faults(Text.COAST, "fo g1;", 1, 0);
         faults(Text.COAST, "fogg1;", 1, 0);
+        faults(Text.COAST, "foga1;", 1, 0);
+        faults(Text.COAST, "fogz1;", 1, 0);
+        faults(Text.LAW, "latez", 1, 0);
         faults(Text.COAST, "fOg1;", 1, 0);
         faults(Text.COAST, "FOG1;", 1, 0);
         faults(Text.COAST, "fog`1;", 1, 3);
